@@ -234,7 +234,7 @@ public final class FordQuestions {
 
     public int last() {
         outlook.startFrom(story.now);
-        return orNone(outlook.hoursTillAllOver());
+        return orNone(outlook.hoursTillOver(story.now.everyone()));
     }
 
     public int most(int what) {
@@ -565,6 +565,10 @@ public final class FordQuestions {
             asked &= ~(1 << q);
         }
 
+        int everyone() {
+            return (1 << crossers) - 1;
+        }
+
         int thoseWho(int place) {
             int set = 0;
             for (int c = 0; c < crossers; c++) {
@@ -617,7 +621,8 @@ public final class FordQuestions {
                 where[c] = OVER;
                 return;
             }
-            till[c] = hour + hoursFor(c, q);
+            int others = Integer.bitCount(thoseWho(IN));
+            till[c] = hour + hoursAmong(others, c, q, hour);
             where[c] = IN;
             asked |= 1 << q;
         }
@@ -713,10 +718,6 @@ public final class FordQuestions {
                 length++;
             }
             return length;
-        }
-
-        boolean isWithin(int place) {
-            return place >= 0 && place < length;
         }
     }
 
@@ -859,7 +860,7 @@ public final class FordQuestions {
         }
 
         private char letterHere() {
-            return text.isWithin(place) ? text.letters[place] : END;
+            return place >= 0 && place < text.length ? text.letters[place] : END;
         }
 
         private static int topicOf(char letter) {
@@ -912,10 +913,6 @@ public final class FordQuestions {
             return NEVER;
         }
 
-        int hoursTillAllOver() {
-            return hoursTillOver((1 << ahead.crossers) - 1);
-        }
-
         private int howManyIn() {
             return Integer.bitCount(ahead.thoseWho(IN));
         }
@@ -940,7 +937,7 @@ public final class FordQuestions {
                     if (now.where[c] == TO_COME && !isIn(now.knows[c], t)) {
                         startFrom(now);
                         ahead.knows[c] |= 1 << t;
-                        keepIfSooner(10 * c + t, hoursTillAllOver());
+                        keepIfSooner(10 * c + t, hoursTillOver(now.everyone()));
                     }
                 }
             }
@@ -952,7 +949,7 @@ public final class FordQuestions {
                 if (!now.isAsked(q)) {
                     startFrom(now);
                     ahead.asked |= 1 << q;
-                    keepIfSooner(q, hoursTillAllOver());
+                    keepIfSooner(q, hoursTillOver(now.everyone()));
                 }
             }
         }

@@ -135,6 +135,34 @@ public final class AgainstModelTest {
         for (int c = -1; c < 5; c++) due(run, "best(" + c + ")", x.best(c), m.best(c));
     }
 
+    /** Few hours and many doctors, so that who is in the ford matters to the best telling. */
+    private static void tryCrowds() {
+        for (int run = 0; run < 300; run++) {
+            state = run * 104729L + 3;
+            FordQuestions x = new FordQuestions();
+            PlainModel m = new PlainModel();
+            int questions = 3 + draw(3);
+            for (int q = 0; q < questions; q++) {
+                int topic = draw(4), hard = 1 + draw(4);
+                due(run, "question", x.question(topic, hard), m.question(topic, hard));
+            }
+            int crossers = 2 + draw(4);
+            for (int c = 0; c < crossers; c++) {
+                int kind = "30334".charAt(draw(5)) - '0', knows = draw(16), comes = draw(5);
+                due(run, "crosser", x.crosser(kind, knows, comes), m.crosser(kind, knows, comes));
+            }
+            int hours = draw(3);
+            if (hours > 0) due(run, "hours", x.hours(hours), m.hours(hours));
+            tryBest(run, x, m);
+            for (int what = 0; what < 2; what++) {
+                due(run, "teaches", x.teaches(what), m.teaches(what));
+                due(run, "spare", x.spare(what), m.spare(what));
+                due(run, "most", x.most(what), m.most(what));
+            }
+            for (int c = 0; c < crossers; c++) due(run, "before", x.before(c), m.before(c));
+        }
+    }
+
     public static void main(String[] args) {
         for (int run = 0; run < RUNS; run++) {
             state = run * 7919L + 17;
@@ -149,6 +177,7 @@ public final class AgainstModelTest {
                 if (k % 10 == 5) look(run, x, m);
             }
         }
+        tryCrowds();
         System.out.println(wrong == 0 ? "the class and the model agree" : wrong + " answers differ from the model's");
         if (wrong != 0) System.exit(1);
     }

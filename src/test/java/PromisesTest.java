@@ -221,6 +221,11 @@ public final class PromisesTest {
         x.hours(2);
         due("10: a gypsy in hour 0", x.at(0, 3), 2);
         due("10: a gypsy in hour 1", x.at(1, 4), 3);
+        x = fordOf("a9b9;p@9,p@9");
+        for (int k = 0; k < 8; k++) x.crosser(0, 0, 9);
+        for (int k = 0; k < 8; k++) x.question(0, 1);
+        due("10: a full ford", x.hours(40), 31);
+        due("10: five are asked", x.count(3), 31);
         x = new FordQuestions();
         for (int k = 0; k < 249; k++) x.hours(40);
         due("10: 9960", x.count(2), 9960);
@@ -468,6 +473,14 @@ public final class PromisesTest {
         due("22: rising by number, not by coming", x.best(0), 1);
         due("22: the first that is as soon", x.best(1), 2);
         due("22: last", x.best(-1), 3);
+        // by a the first one is still in when the doctor comes, by b he is over, but then a takes the doctor 6
+        x = fordOf("a3b1;p,d@1");
+        due("22: a doctor counts who is in", x.best(-1), 4);
+        due("22: a", x.best(0), 0);
+        x = fordOf("a3!b1;p,d@1");
+        due("22: who is asked none is over behind his hour", x.best(-1), 2);
+        x = fordOf("a9b9;g@1,g@2");
+        due("22: a gypsy by the hour of his coming", x.best(-1), 3);
         due("22: nobody", fordOf("a1").best(-1), 0);
         due("22: -2", x.best(-2), BAD);
         due("22: no such", x.best(2), BAD);
