@@ -1,28 +1,5 @@
 /** Each promise of the document by itself: ordinary inputs, its edges, wrong inputs. Answers are worked out by hand. */
-public final class PromisesTest {
-    private static final int BAD = -1, NOT = -2, FULL = -3, NONE = -4, NULL = -11, CAST = -12, INDEX = -13, SIZE = -14;
-    private static final int LEAST = Integer.MIN_VALUE, GREATEST = Integer.MAX_VALUE;
-    private static int wrong, checked;
-
-    private static void due(String what, int got, int want) {
-        checked++;
-        if (got != want) {
-            wrong++;
-            System.out.println(what + " answered " + got + ", due is " + want);
-        }
-    }
-
-    private static int told(FordQuestions x, String text) {
-        for (int p = 0; p < text.length(); p++) x.type(text.charAt(p));
-        return x.ford();
-    }
-
-    private static FordQuestions fordOf(String text) {
-        FordQuestions x = new FordQuestions();
-        if (told(x, text) < 1) due("the ford " + text, 0, 1);
-        return x;
-    }
-
+public final class PromisesTest extends Checks {
     private static void p1NewObject() {
         FordQuestions x = new FordQuestions();
         for (int w = 0; w < 8; w++) due("1: count(" + w + ")", x.count(w), 0);
@@ -785,7 +762,6 @@ public final class PromisesTest {
         p10Hours(); p11Teach(); p12Later(); p13Again(); p14Put(); p15Drift(); p16Undo(); p17Seed();
         p18Then(); p19Crosses(); p20Last(); p21Most(); p22Best(); p23Teaches(); p24Spare(); p25Before(); p26Cramp();
         p27Image(); p28Restore(); p29Seen(); p30Film(); p31Sheet(); p32Drop(); p33Item(); p34Copy();
-        System.out.println(checked - wrong + " answers as due, " + wrong + " not");
-        if (wrong != 0) System.exit(1);
+        finish();
     }
 }
