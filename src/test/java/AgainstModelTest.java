@@ -163,6 +163,27 @@ public final class AgainstModelTest {
         }
     }
 
+    /** A text with each letter in place of, and ahead of, each of its own, and each beginning of it. */
+    private static void tryTexts() {
+        String text = "a7c4!h9;p:ab@1,s:c ,r@ 2,d:f@40,g";
+        for (int p = 0; p <= text.length(); p++) {
+            String ahead = text.substring(0, p);
+            tryText(ahead);
+            for (char letter = ' '; letter <= '~'; letter++) {
+                tryText(ahead + letter + text.substring(p));
+                tryText(ahead + letter + text.substring(Math.min(p + 1, text.length())));
+            }
+        }
+    }
+
+    private static void tryText(String text) {
+        FordQuestions x = new FordQuestions();
+        PlainModel m = new PlainModel();
+        for (int p = 0; p < text.length(); p++) due(0, "type", x.type(text.charAt(p)), m.type(text.charAt(p)));
+        due(0, "ford() of \"" + text + "\"", x.ford(), m.ford());
+        look(0, x, m);
+    }
+
     public static void main(String[] args) {
         for (int run = 0; run < RUNS; run++) {
             state = run * 7919L + 17;
@@ -178,6 +199,7 @@ public final class AgainstModelTest {
             }
         }
         tryCrowds();
+        tryTexts();
         System.out.println(wrong == 0 ? "the class and the model agree" : wrong + " answers differ from the model's");
         if (wrong != 0) System.exit(1);
     }

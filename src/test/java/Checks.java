@@ -40,10 +40,10 @@ abstract class Checks {
     /**
      * An object with something of everything, at hour 3: questions a7 (asked), c4, h8 (asked);
      * crosser 0 in till 10, 1 in till 14, 2 to come at 30, 3 over; the draw is 7, five may be undone,
-     * the image is of hour 2, the tape is "b2", sheet 0 has 10 bytes (2 2 2 2 2 2 1 1 1 1, how many
+     * the image is of hour 2, the tape is as told, sheet 0 has 10 bytes (2 2 2 2 2 2 1 1 1 1, how many
      * will be in), sheet 1 four shorts (0 1 4 5), sheet 2 no longs, sheet 3 is missing.
      */
-    static FordQuestions busy() {
+    static FordQuestions busyWithTape(String tape) {
         FordQuestions x = fordOf("a7c4!h9;p:a@1,d,g:h@30,s@2");
         x.seed(7);
         x.hours(2);
@@ -58,8 +58,12 @@ abstract class Checks {
         x.item(1, 1, 2, 4);
         x.item(1, 1, 3, 5);
         x.sheet(2, 3, 0);
-        typed(x, "b2");
+        typed(x, tape);
         return x;
+    }
+
+    static FordQuestions busy() {
+        return busyWithTape("b2");
     }
 
     /** The call is answered so, and nothing is different behind it. */

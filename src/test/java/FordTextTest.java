@@ -12,17 +12,9 @@ public final class FordTextTest extends Checks {
 
     /** The tape is empty then; all else stays. */
     private static void faultChangesNothing(String rule, String text, int want) {
-        FordQuestions x = busyWithoutTape();
+        FordQuestions x = busyWithTape("");
         due("8: " + rule + ", \"" + text + "\" in a busy ford", told(x, text), want);
-        same("8: \"" + text + "\"", x, busyWithoutTape());
-    }
-
-    /** The tape's letters are no ford. */
-    private static FordQuestions busyWithoutTape() {
-        FordQuestions x = busy();
-        x.type('x');
-        x.ford();
-        return x;
+        same("8: \"" + text + "\"", x, busyWithTape(""));
     }
 
     private static void questions() {
@@ -109,7 +101,7 @@ public final class FordTextTest extends Checks {
     }
 
     private static void inPlaceOfAll() {
-        FordQuestions x = busyWithoutTape();
+        FordQuestions x = busyWithTape("");
         due("8: how many questions", told(x, "c2d3!;r:ch@40,g"), 2);
         int[] counts = {2, 2, 0, 2, 3, 0, 0, 0};
         for (int w = 0; w < 8; w++) due("8: in place of all, count(" + w + ")", x.count(w), counts[w]);

@@ -178,11 +178,9 @@ public final class UndoneTest extends Checks {
         x.hours(40);
         x.question(0, 1);
         due("28: as often as one likes", x.restore(), 1);
-        FordQuestions y = busy();
+        // the tape is no part of an image, and was used up above
+        FordQuestions y = busyWithTape("");
         y.image();
-        // the tape is no part of an image: both have none
-        y.type('x');
-        y.ford();
         same("28: all is as it was", x, y);
         x = new FordQuestions();
         due("27: of an empty ford", x.image(), 1);
@@ -236,6 +234,7 @@ public final class UndoneTest extends Checks {
     }
 
     private static void films() {
+        filmsWriteThatMany();
         FordQuestions x = fordOf("a9b9c9d9e9;p@1,p@2,p@3,p@4,p@5");
         x.sheet(0, 2, 24);
         for (int i = 0; i < 24; i++) x.item(0, 2, i, 9);
@@ -251,6 +250,19 @@ public final class UndoneTest extends Checks {
         due("30: the last eight", x.seen(4, 0, 2, 16, 8, 1), 256);
         due("30: nobody is in at the end", x.then(0, 0), 0);
         due("29: n items, not one more", x.seen(4, 0, 2, 16, 7, 1), 256);
+    }
+
+    /** One is in for 17 hours, so that an item too many would be 1. */
+    private static void filmsWriteThatMany() {
+        for (int n = 1; n <= 16; n++) {
+            FordQuestions x = fordOf("a9;s");
+            x.hours(1);
+            x.sheet(0, 0, 24);
+            due("30: " + n + " from 4 on", x.film(n, 0, 0, 4), n);
+            for (int i = 3; i <= 4 + n; i++) {
+                due("30: item " + i + " of " + n + " from 4 on", x.seen(0, 0, 0, i, 1, 1), i >= 4 && i < 4 + n ? 256 : 0);
+            }
+        }
     }
 
     /** Items 1 2 3 4 5 of a ford in which so many will be in behind the next hours, read from i on. */
