@@ -61,6 +61,10 @@ public final class FaceTest {
         for (Class<?> c : face.getDeclaredClasses()) {
             must(Modifier.isStatic(c.getModifiers()) && !Modifier.isPublic(c.getModifiers()), c.getName() + " is static and not public");
             must(c.getDeclaredFields().length <= 20, c.getName() + " has at most twenty fields");
+            for (Method m : c.getDeclaredMethods()) {
+                must(m.getParameterCount() <= 7, m.getName() + " takes at most seven");
+                must(!publicNames.contains(m.getName()), m.getName() + " of " + c.getName() + " is no public one's name");
+            }
         }
     }
 
@@ -76,6 +80,22 @@ public final class FaceTest {
         checkMakesOnlyInConstructors(code);
     }
 
+    /** Each line of the document's face stands in the class, methods with their bodies behind it. */
+    private static void checkWordForWord() throws Exception {
+        String text = Files.readString(Path.of("src/main/java/FordQuestions.java"));
+        String document = Files.readString(Path.of("../shared/DOC.md"));
+        Matcher face = Pattern.compile("(?s)## The public face\n+```java\n(.*?)```").matcher(document);
+        boolean isThere = face.find();
+        must(isThere, "the document has a face");
+        int lines = 0;
+        for (String line : isThere ? face.group(1).split("\n") : new String[0]) {
+            String due = line.endsWith(");") ? line.substring(0, line.length() - 1) + " {" : line;
+            must(("\n" + text + "\n").contains("\n" + due + "\n"), "the class has the line '" + due + "'");
+            lines++;
+        }
+        must(lines == 37, "the face has 37 lines: " + lines);
+    }
+
     /** The room: all objects are made with the first one, so that no run of calls makes more. */
     private static void checkMakesOnlyInConstructors(String code) {
         boolean isInConstructor = false;
@@ -89,6 +109,7 @@ public final class FaceTest {
     public static void main(String[] args) throws Exception {
         checkMembers();
         checkText();
+        checkWordForWord();
         System.out.println(wrong == 0 ? "the face is the document's" : wrong + " things about the face do not hold");
         if (wrong != 0) System.exit(1);
     }
